@@ -659,7 +659,7 @@ public final class TypeTutor {
         }
 
         /** The node that a node is a part of, or -1; it always has a lower number. */
-        private int around(int node) {
+        private int parentOf(int node) {
             int parent = of(PARENT, node);
             return parent < node ? parent : -1;
         }
@@ -677,7 +677,7 @@ public final class TypeTutor {
         /** The innermost function or let whose body has the name, or -1. */
         private int binderOf(int name) {
             int part = name;
-            for (int around = around(name); around >= 0; around = around(around)) {
+            for (int around = parentOf(name); around >= 0; around = parentOf(around)) {
                 int kind = of(KIND, around);
                 boolean isBody = kind == FUNCTION || kind == LET && of(SECOND, around) == part;
                 if (isBody && of(LETTER, around) == of(LETTER, name)) {
@@ -713,7 +713,7 @@ public final class TypeTutor {
         /** Writes what comes behind a node that has no parts: the ends of the nodes that end with it. */
         private void writeEnds(int leaf, StringBuilder text) {
             int part = leaf;
-            for (int around = around(leaf); around >= 0; around = around(around)) {
+            for (int around = parentOf(leaf); around >= 0; around = parentOf(around)) {
                 if (of(SECOND, around) > part) {
                     if (of(KIND, around) == LET) {
                         text.append(';');
@@ -1565,7 +1565,7 @@ public final class TypeTutor {
                 fail(TOO_LARGE, node);
             } else {
                 int alone = types.newMark();
-                for (int around = term.around(node); around >= 0; around = term.around(around)) {
+                for (int around = term.parentOf(node); around >= 0; around = term.parentOf(around)) {
                     if (term.of(KIND, around) == FUNCTION) {
                         types.markAll(at(variableOf, around), alone);
                     }

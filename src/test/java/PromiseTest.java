@@ -198,6 +198,18 @@ public final class PromiseTest {
         is(t.reason(0, true), 6);
         is(t.drop(0), 2);
         is(give(t, "1"), 5);
+        TypeTutor u = new TypeTutor();
+        type(u, "((x");
+        fails(IAE, u::lesson);
+        is(give(u, "1"), 0);
+        type(u, "x)");
+        fails(IAE, u::lesson);
+        is(u.faultPosition(), 1);
+        type(u, "!a=1");
+        fails(IAE, u::lesson);
+        type(u, "1;1");
+        fails(IAE, u::lesson);
+        is(u.faultPosition(), 1);
     }
 
     private static void promise3() {
@@ -351,6 +363,7 @@ public final class PromiseTest {
         is(t.unbound(1), 1);
         is(t.unbound(2), 0);
         noLesson(t, 3, () -> t.unbound(3));
+        is(with("y").unbound(0), 1);
     }
 
     private static void promise12() {
@@ -449,13 +462,41 @@ public final class PromiseTest {
         measures("^x.!f=^y.x;f1", "a>a", 3, 1, 1, 1, 1);
         measures("^x.!f=^y.x;+(f1)(f+)", "N>N", 3, 1, 0, 1, 1);
         measures("^g.!p=^z.zgg;!q=^z.zpp;q", "a>(((a>a>b)>b)>((a>a>c)>c)>d)>d", 21, 10, 4, 4, 2);
+        measures("!a=1;!b=+;!c=^x.x;!d=<12;?d(ba)(c(b1))", "N>N", 3, 1, 0, 1, 1);
+        measures("^x.1", "a>N", 3, 1, 1, 1, 1);
+        measures("^f.^x.?(f1)x", "(N>B)>a>a>a", 9, 4, 1, 2, 3);
         TypeTutor t = with("^x.xx", "1");
         failsAlone(t, ISE, () -> t.typeOf(0, 0));
         failsAlone(t, IAE, () -> t.typeOf(0, 5));
         failsAlone(t, IAE, () -> t.typeOf(1, -1));
         noLesson(t, 2, () -> t.typeOf(2, 5));
+        deepTypes();
         // A name of a function that a let leaves alone has one type for all nodes.
         failed("^x.!y=x;?(<(y1)2)(y3)(y+)", 4, 17, 0, 2);
+    }
+
+    /** Types that are arrows from arrows, many times over: each N>a, from which again is an arrow. */
+    private static void deepTypes() {
+        TypeTutor t = with("!f=^y.^z.zy;^y.f(f(f(f(fy))))", "!f=^y.^z.zy;^y.f(f(f(fy)))");
+        is(run(t, "k0A;k1B;x0;x0"), 4);
+        give(t, "^z.z(^z.z(^z.z(^z.z(^z.z(^z.z(^z.z(A(A(A(A(A1)))))))))))");
+        give(t, "^u.^k.+(ku)(k(A(A(A(A(B1))))))");
+        give(t, "A(A(A(A(B1))))");
+        StringBuilder due = new StringBuilder("N");
+        for (int k = 0; k < 32; k++) {
+            due.insert(0, k > 0 ? "((" : "(").append(k > 0 ? ")>" : ">").append(name(k)).append(")>").append(name(k));
+        }
+        is(told(t, 0), due.toString());
+        is(t.typeOf(0, 0), 129);
+        is(t.typeOf(0, 3), 64);
+        is(t.typeOf(0, 4), 1);
+        is(t.typeOf(1, 0), 199);
+        is(t.typeOf(2, 0), 97);
+        is(t.fit(1, 2), 101);
+        fails(NSE, () -> t.fit(1, 0));
+        is(t.isAsGeneral(2, 2), true);
+        is(t.isAsGeneral(2, 0), false);
+        is(t.isTold(), true);
     }
 
     private static void promise15() {
@@ -471,6 +512,10 @@ public final class PromiseTest {
         failsAlone(t, IAE, () -> t.typeAgain(0, -1));
         noLesson(t, 5, () -> t.typeAgain(5, 5));
         is(t.typeAgain(4, 3), 0);
+        // No type by its size alone, which the second way does not look at.
+        TypeTutor u = with(DOUBLES + "(^x.x)e", DOUBLES + "e");
+        failsAlone(u, ISE, () -> u.typeAgain(0, 0));
+        is(u.isTold(), true);
     }
 
     private static void promise16() {
@@ -580,6 +625,8 @@ public final class PromiseTest {
         is(t.largest(), 2);
         is(give(t, "+"), 4);
         is(t.largest(), 4);
+        is(with("1", "2").largest(), 0);
+        is(with("+", "^x.x", "1").largest(), 0);
         TypeTutor u = with("^x.xx");
         failsAlone(u, NSE, u::largest);
         give(u, "1");
@@ -682,6 +729,7 @@ public final class PromiseTest {
         ordersFault("^x.x", 0);
         is(run(t, "x5;x4;x3;x2;x1;x0"), 6);
         is(t.account(0), 0);
+        is(run(with("1"), "k0A"), 1);
     }
 
     private static void promise27() {
@@ -803,7 +851,8 @@ public final class PromiseTest {
         }
         spelled("xxxxxxxxxxxxxxxxxxxxxxxxxxxxxxxxxxxxxxxxxxxxxxxxxxxxxxxxxxxx", due.toString());
         TypeTutor t = with("y");
-        t.tellTerm(0);
+        is(t.tellTerm(0), 1);
+        is(t.tellTerm(0), 1);
         noLesson(t, 1, () -> t.tellTerm(1));
         noLesson(t, -1, () -> t.tellTerm(-1));
     }
@@ -839,6 +888,7 @@ public final class PromiseTest {
         is(t.account(8), 3);
         is(t.account(6), 1);
         is(t.account(0), 5);
+        is(with("1", "+", "^x.x", "^x.1", "<12").account(9), 3);
     }
 
     private static void promise35() {
@@ -851,7 +901,9 @@ public final class PromiseTest {
         give(t, "^x.^y.^z.1");
         give(t, "1");
         is(t.meanSize(), 17 / 5.0);
-        failsAlone(new TypeTutor(), AE, () -> new TypeTutor().meanSize());
+        is(with("+", "1").meanSize(), 3.0);
+        TypeTutor none = new TypeTutor();
+        failsAlone(none, AE, none::meanSize);
     }
 
     private static void promise36() {
@@ -915,6 +967,50 @@ public final class PromiseTest {
         is(t.account(8), 3);
         failsAlone(t, ISE, t::undo);
         is(t.isKept(0), true);
+    }
+
+    private static void promise37c() {
+        // Each undone change gives back what was seen ahead of it.
+        TypeTutor t = with("1", "^x.x", "A");
+        Call[] changes = {
+            () -> t.keep(1, 0), () -> t.drop(0), () -> give(t, "^x.xx"), () -> t.keep(1, 4), () -> t.unkeep(0),
+            () -> run(t, "x2;k0H"), () -> t.drop(1), () -> t.unkeep(7), () -> give(t, "+"), () -> t.drop(0),
+        };
+        t.save();
+        for (int round = 0; round < 3; round++) {
+            String[] looks = new String[changes.length];
+            for (int k = 0; k < changes.length; k++) {
+                looks[k] = state(t);
+                changes[k].get();
+                fails(UOE, () -> t.drop(6));
+            }
+            for (int k = 9; k >= 2; k--) {
+                is(t.undo(), k - 2);
+                is(state(t), looks[k]);
+            }
+            failsAlone(t, ISE, t::undo);
+            t.restore();
+            is(state(t), looks[0]);
+        }
+    }
+
+    /** What goes back when a change is undone. */
+    private static String state(TypeTutor t) {
+        StringBuilder text = new StringBuilder();
+        for (int what = 0; what <= 12; what++) {
+            text.append(' ').append(what == 10 || what == 11 ? 0 : t.account(what));
+        }
+        for (int lesson = 0; lesson < t.account(0); lesson++) {
+            t.tellTerm(lesson);
+            text.append(' ').append(line(t));
+        }
+        for (int capital = 0; capital < 8; capital++) {
+            if (t.isKept(capital)) {
+                t.tellKept(capital);
+                text.append(' ').append(capital).append(line(t));
+            }
+        }
+        return text.toString();
     }
 
     private static void promise38() {
@@ -983,6 +1079,7 @@ public final class PromiseTest {
         promise13b();
         promise = 37;
         promise37b();
+        promise37c();
         System.out.println("PromiseTest: " + (wrong == 0 ? checks + " answers are as due" : wrong + " answers are not as due"));
         if (wrong != 0) {
             System.exit(1);

@@ -513,9 +513,18 @@ public final class PromiseTest {
         noLesson(t, 5, () -> t.typeAgain(5, 5));
         is(t.typeAgain(4, 3), 0);
         // No type by its size alone, which the second way does not look at.
-        TypeTutor u = with(DOUBLES + "(^x.x)e", DOUBLES + "e");
+        String large = "!a=?;!b=^z.zaa;!c=^z.zbb;!d=^z.zcc;";
+        TypeTutor u = with(large + "^z.zdd1111111", large + "(^x.1)(^z.zdd1111111)");
+        is(u.failure(0, 0), 10);
+        is(u.failure(1, 0), 10);
         failsAlone(u, ISE, () -> u.typeAgain(0, 0));
+        failsAlone(u, ISE, () -> u.typeAgain(1, 0));
         is(u.isTold(), true);
+        fails(NSE, u::largest);
+        fails(AE, u::meanSize);
+        is(u.account(9), 0);
+        give(u, "^x.x");
+        is(u.fitting(2), 1);
     }
 
     private static void promise16() {

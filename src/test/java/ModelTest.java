@@ -5,6 +5,18 @@ import java.util.TreeMap;
 
 /** Long runs of calls on the class and on the model of the document; each answer must be the same. */
 public final class ModelTest {
+    /** An object is used for so many calls at most; what later ones answer is free. */
+    private static final int CALLS = 512;
+
+    /** The object has no more calls. */
+    private static final class Spent extends RuntimeException {
+        private static final long serialVersionUID = 1;
+
+        private Spent() {
+            super(null, null, false, false);
+        }
+    }
+
     private interface Answer {
         Object get();
     }
@@ -108,6 +120,9 @@ public final class ModelTest {
     }
 
     private static String same(String call, Answer ofClass, Answer ofModel, List<String> calls) {
+        if (calls.size() >= CALLS) {
+            throw new Spent();
+        }
         String got = told(ofClass);
         String due = told(ofModel);
         calls.add(call + " -> " + got);
@@ -131,93 +146,105 @@ public final class ModelTest {
         }
     }
 
-    private static void line(String call, Answer ofClass, Answer ofModel, TypeTutor t, Model m, List<String> calls) {
+    /** A number below a bound, or now and then one beyond its bounds or the farthest one. */
+    private static int number(int bound) {
+        if (bound > 0 && pick(9) > 0) {
+            return pick(bound);
+        }
+        int[] beyond = {-1, bound, bound + 1, Integer.MIN_VALUE, Integer.MAX_VALUE};
+        return beyond[pick(beyond.length)];
+    }
+
+    private static void characters(String call, Answer ofClass, Answer ofModel, TypeTutor t, Model m, List<String> calls) {
         same(call, ofClass, ofModel, calls);
-        StringBuilder got = new StringBuilder();
-        for (int k = 0; k < m.line.length(); k++) {
-            int index = k;
-            String sign = told(() -> t.character(index));
-            got.append(sign);
-        }
-        same("line()", () -> got.toString() + told(() -> t.character(m.line.length())),
-            () -> m.line + "throws.IndexOutOfBoundsException", calls);
-    }
-
-    private static void lessonChecks(TypeTutor t, Model m, int l, List<String> calls) {
-        same("nodes(" + l + ")", () -> t.nodes(l), () -> m.nodes(l), calls);
-        same("unbound(" + l + ")", () -> t.unbound(l), () -> m.unbound(l), calls);
-        same("isTyped(" + l + ")", () -> t.isTyped(l), () -> m.isTyped(l), calls);
-        int due = l >= 0 && l < m.state.lessons.size() ? m.nodes(l) : 1;
-        for (int w = -1; w <= 5; w++) {
-            int what = w;
-            String told = same("failure(" + l + "," + what + ")", () -> t.failure(l, what), () -> m.failure(l, what), calls);
-            if (what == 0) {
-                SEEN.merge("reason " + told, 1, Integer::sum);
-            }
-            same("typeOf(" + l + "," + what + ")", () -> t.typeOf(l, what), () -> m.typeOf(l, what), calls);
-            same("typeAgain(" + l + "," + what + ")", () -> t.typeAgain(l, what), () -> m.typeAgain(l, what), calls);
-        }
-        line("tell(" + l + ")", () -> t.tell(l), () -> m.tell(l), t, m, calls);
-        line("tellTerm(" + l + ")", () -> t.tellTerm(l), () -> m.tellTerm(l), t, m, calls);
-        for (int n = -1; n <= due; n++) {
-            int node = n;
-            for (int w = -1; w <= 6; w++) {
-                int what = w;
-                String arguments = "(" + l + "," + node + "," + what + ")";
-                same("nodeOf" + arguments, () -> t.nodeOf(l, node, what), () -> m.nodeOf(l, node, what), calls);
-            }
-            String arguments = "(" + l + "," + node + ")";
-            same("signOf" + arguments, () -> t.signOf(l, node), () -> m.signOf(l, node), calls);
-            same("binder" + arguments, () -> t.binder(l, node), () -> m.binder(l, node), calls);
-            same("uses" + arguments, () -> t.uses(l, node), () -> m.uses(l, node), calls);
-            int what = pick(7) - 1;
-            same("nodeType(" + l + "," + node + "," + what + ")", () -> t.nodeType(l, node, what), () -> m.nodeType(l, node, what), calls);
-            if (pick(4) == 0) {
-                line("tellNode" + arguments, () -> t.tellNode(l, node), () -> m.tellNode(l, node), t, m, calls);
-            }
+        for (int k = 0; k < 4; k++) {
+            int index = k == 0 ? m.line.length() - 1 : number(m.line.length());
+            same("character(" + index + ")", () -> t.character(index), () -> m.character(index), calls);
         }
     }
 
-    private static void allChecks(TypeTutor t, Model m, List<String> calls) {
-        for (int k = -1; k <= 8; k++) {
-            int c = k;
-            same("isKept(" + c + ")", () -> t.isKept(c), () -> m.isKept(c), calls);
-            line("tellKept(" + c + ")", () -> t.tellKept(c), () -> m.tellKept(c), t, m, calls);
-            same("ranked(" + c + ")", () -> t.ranked(c), () -> m.ranked(c), calls);
+    private static void askOfLesson(TypeTutor t, Model m, int l, List<String> calls) {
+        int w = number(6);
+        String one = "(" + l + ")";
+        String two = "(" + l + "," + w + ")";
+        switch (pick(9)) {
+            case 0: same("nodes" + one, () -> t.nodes(l), () -> m.nodes(l), calls); break;
+            case 1: same("unbound" + one, () -> t.unbound(l), () -> m.unbound(l), calls); break;
+            case 2: same("isTyped" + one, () -> t.isTyped(l), () -> m.isTyped(l), calls); break;
+            case 3:
+                String told = same("failure" + two, () -> t.failure(l, w), () -> m.failure(l, w), calls);
+                SEEN.merge("failure " + w + " " + told, 1, Integer::sum);
+                break;
+            case 4: same("typeOf" + two, () -> t.typeOf(l, w), () -> m.typeOf(l, w), calls); break;
+            case 5: same("typeAgain" + two, () -> t.typeAgain(l, w), () -> m.typeAgain(l, w), calls); break;
+            case 6: same("fitting" + one, () -> t.fitting(l), () -> m.fitting(l), calls); break;
+            case 7: characters("tell" + one, () -> t.tell(l), () -> m.tell(l), t, m, calls); break;
+            default: characters("tellTerm" + one, () -> t.tellTerm(l), () -> m.tellTerm(l), t, m, calls); break;
         }
-        for (int k = -1; k <= 13; k++) {
-            int w = k;
-            same("account(" + w + ")", () -> t.account(w), () -> m.account(w), calls);
+    }
+
+    private static void askOfNode(TypeTutor t, Model m, int l, List<String> calls) {
+        int n = number(l >= 0 && l < m.state.lessons.size() ? m.nodes(l) : 1);
+        int w = number(6);
+        String two = "(" + l + "," + n + ")";
+        String three = "(" + l + "," + n + "," + w + ")";
+        switch (pick(6)) {
+            case 0: same("nodeOf" + three, () -> t.nodeOf(l, n, w), () -> m.nodeOf(l, n, w), calls); break;
+            case 1: same("signOf" + two, () -> t.signOf(l, n), () -> m.signOf(l, n), calls); break;
+            case 2: same("binder" + two, () -> t.binder(l, n), () -> m.binder(l, n), calls); break;
+            case 3: same("uses" + two, () -> t.uses(l, n), () -> m.uses(l, n), calls); break;
+            case 4: same("nodeType" + three, () -> t.nodeType(l, n, w), () -> m.nodeType(l, n, w), calls); break;
+            default: characters("tellNode" + two, () -> t.tellNode(l, n), () -> m.tellNode(l, n), t, m, calls); break;
         }
-        for (int k = -1; k <= 2; k++) {
-            int d = k;
-            same("reason(" + d + ",true)", () -> t.reason(d, true), () -> m.reason(d, true), calls);
-            same("reason(" + d + ",false)", () -> t.reason(d, false), () -> m.reason(d, false), calls);
+    }
+
+    private static void askOfTwo(TypeTutor t, Model m, int a, int b, List<String> calls) {
+        String two = "(" + a + "," + b + ")";
+        switch (pick(3)) {
+            case 0: same("isAlike" + two, () -> t.isAlike(a, b), () -> m.isAlike(a, b), calls); break;
+            case 1: same("isAsGeneral" + two, () -> t.isAsGeneral(a, b), () -> m.isAsGeneral(a, b), calls); break;
+            default: same("fit" + two, () -> t.fit(a, b), () -> m.fit(a, b), calls); break;
         }
-        same("largest()", t::largest, m::largest, calls);
-        same("isTold()", t::isTold, m::isTold, calls);
-        same("meanSize()", t::meanSize, m::meanSize, calls);
-        same("typedShare()", t::typedShare, m::typedShare, calls);
-        same("faultPosition()", t::faultPosition, m::faultPosition, calls);
-        for (int k = -1; k <= m.state.lessons.size(); k++) {
-            int a = k;
-            same("fitting(" + a + ")", () -> t.fitting(a), () -> m.fitting(a), calls);
-            for (int j = -1; j <= m.state.lessons.size(); j++) {
-                int b = j;
-                String arguments = "(" + a + "," + b + ")";
-                String alike = same("isAlike" + arguments, () -> t.isAlike(a, b), () -> m.isAlike(a, b), calls);
-                String general = same("isAsGeneral" + arguments, () -> t.isAsGeneral(a, b), () -> m.isAsGeneral(a, b), calls);
-                same("fit" + arguments, () -> t.fit(a, b), () -> m.fit(a, b), calls);
-                SEEN.merge("alike " + alike + " general " + general, 1, Integer::sum);
-            }
+    }
+
+    private static void askOfAll(TypeTutor t, Model m, List<String> calls) {
+        int c = pick(2) == 0 ? number(8) : pick(3);
+        int p = number(m.state.lessons.size());
+        int d = number(2);
+        int w = number(13);
+        boolean isDetail = pick(2) == 0;
+        switch (pick(10)) {
+            case 0: same("isKept(" + c + ")", () -> t.isKept(c), () -> m.isKept(c), calls); break;
+            case 1: characters("tellKept(" + c + ")", () -> t.tellKept(c), () -> m.tellKept(c), t, m, calls); break;
+            case 2: same("ranked(" + p + ")", () -> t.ranked(p), () -> m.ranked(p), calls); break;
+            case 3:
+                String call = "reason(" + d + "," + isDetail + ")";
+                same(call, () -> t.reason(d, isDetail), () -> m.reason(d, isDetail), calls);
+                break;
+            case 4: same("largest()", t::largest, m::largest, calls); break;
+            case 5: same("isTold()", t::isTold, m::isTold, calls); break;
+            case 6: same("meanSize()", t::meanSize, m::meanSize, calls); break;
+            case 7: same("typedShare()", t::typedShare, m::typedShare, calls); break;
+            case 8: same("faultPosition()", t::faultPosition, m::faultPosition, calls); break;
+            default: same("account(" + w + ")", () -> t.account(w), () -> m.account(w), calls); break;
+        }
+    }
+
+    private static void ask(TypeTutor t, Model m, List<String> calls) {
+        int l = number(m.state.lessons.size());
+        switch (pick(4)) {
+            case 0: askOfLesson(t, m, l, calls); break;
+            case 1: askOfNode(t, m, l, calls); break;
+            case 2: askOfTwo(t, m, l, number(m.state.lessons.size()), calls); break;
+            default: askOfAll(t, m, calls); break;
         }
     }
 
     private static void change(TypeTutor t, Model m, List<String> calls) {
         int which = pick(20);
-        int l = pick(8) - 1;
-        int c = pick(10) - 1;
-        if (which < 9) {
+        int l = number(m.state.lessons.size());
+        int c = pick(3) == 0 ? number(8) : pick(3);
+        if (which < 8) {
             type(term(), t, m, calls);
             same("lesson()", t::lesson, m::lesson, calls);
         } else if (which < 12) {
@@ -244,23 +271,35 @@ public final class ModelTest {
         }
     }
 
+    /** One run: changes and questions, until the object has no more calls. */
+    private static void run(List<String> calls) {
+        TypeTutor t = new TypeTutor();
+        Model m = new Model();
+        int asked = 1 + pick(12);
+        if (pick(2) == 0) {
+            // Terms that name a capital have types more often then.
+            type(TERMS[pick(12)], t, m, calls);
+            same("lesson()", t::lesson, m::lesson, calls);
+            same("keep(0,0)", () -> t.keep(0, 0), () -> m.keep(0, 0), calls);
+            same("keep(0,1)", () -> t.keep(0, 1), () -> m.keep(0, 1), calls);
+        }
+        while (calls.size() < CALLS) {
+            change(t, m, calls);
+            for (int k = 0; k < asked; k++) {
+                ask(t, m, calls);
+            }
+        }
+    }
+
     public static void main(String[] arguments) {
-        int runs = arguments.length > 0 ? Integer.parseInt(arguments[0]) : 300;
+        int runs = arguments.length > 0 ? Integer.parseInt(arguments[0]) : 4000;
         for (int run = 0; run < runs && wrong < 20; run++) {
             seed = 77 + run;
-            TypeTutor t = new TypeTutor();
-            Model m = new Model();
-            List<String> calls = new ArrayList<>();
-            for (int step = 0; step < 30; step++) {
-                change(t, m, calls);
-                if (pick(3) == 0) {
-                    lessonChecks(t, m, pick(7) - (pick(9) == 0 ? 1 : 0), calls);
-                }
-                if (pick(6) == 0) {
-                    allChecks(t, m, calls);
-                }
+            try {
+                run(new ArrayList<>());
+            } catch (Spent e) {
+                SEEN.merge("runs to the last call", 1, Integer::sum);
             }
-            allChecks(t, m, calls);
         }
         if (arguments.length > 0) {
             SEEN.forEach((what, count) -> System.out.println(count + " " + what));

@@ -528,6 +528,8 @@ final class LineSentences extends Sentences {
             is(with("1", "2", "3", "4", "5", "6").account(9), 6);
             is(with("^x.x", "y", "11", "^x.xx").account(9), 0);
             is(with("^x.+1x").account(9), 1);
+            // It is not the second way that tells it.
+            is(with("!a=^x.x;!b=aa;!c=bb;!d=cc;!e=dd;edd1").account(9), 1);
         });
         says("10 the characters in the input;", () -> {
             TypeTutor t = new TypeTutor();

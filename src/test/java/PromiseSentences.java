@@ -693,6 +693,9 @@ final class PromiseSentences extends Sentences {
             is(t.isAlike(3, 5), false);
             is(t.isAlike(5, 5), true);
             is(with("1", "<12").isAlike(0, 1), false);
+            is(with("1", "+1").isAlike(0, 1), false);
+            is(with("^x.^y.x", "^x.x").isAlike(0, 1), false);
+            is(with("^x.x", "^x.^y.^z.x").isAlike(0, 1), false);
             is(with("^f.f1", "^x.^y.x").isAlike(0, 1), false);
             is(with(LARGE + SIZE_199, LARGE + SIZE_199).isAlike(0, 1), true);
             is(with(LARGE + SIZE_199, LARGE + "^z.zdd11111(<12)").isAlike(0, 1), false);

@@ -227,6 +227,18 @@ final class RuleSentences extends Sentences {
 
     private static void detailsOfTypes() {
         says("Details. Types are found anew at each question, by what capitals keep then;", () -> {
+            // Nothing is left behind by a lesson that has no type, whatever the reason is.
+            for (int k = 0; k < 6; k++) {
+                TypeTutor all = with(ALL_KINDS);
+                all.isTyped(k);
+                is(all.isTyped(1), true);
+                all.isTyped(k);
+                is(all.tell(0), 3);
+                all.isTyped(k);
+                is(all.fit(0, 1), 1);
+                all.isTyped(k);
+                is(all.fit(0, 0), 3);
+            }
             TypeTutor t = with("A", "+", "1", "!b=A;bA", "A1");
             is(t.failure(0, 0), 3);
             is(t.account(1), 2);
